@@ -148,6 +148,12 @@ public final class ForetoldTest {
         check.due("twelve times", x.thread(1, 0, 12), 24);
         x.know(3, 1);
         check.due("half", x.thread(1, 0, 12), 0);
+        x.row(2, 2, 40);
+        x.set(2, 39, 60);
+        check.due("up to the end of a row", x.thread(2, 38, 1), 1);
+        Check.lay(x, 3, 0, 10, 1, 12, 9, 9);
+        check.due("what stands behind is not looked at", x.thread(3, 0, 1), 32);
+        check.due("nor whether it is a STREET", x.thread(3, 2, 1), 0);
     }
 
     private static void threadIsRefused() {
