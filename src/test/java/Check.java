@@ -1,3 +1,5 @@
+import java.util.function.IntUnaryOperator;
+
 /** Counts the answers that are not as due, and makes cities for the tests. */
 final class Check {
     static final int NULL = -1000011, PLACE = -1000012, KIND = -1000013, SIZE = -1000014, STORE = -1000015;
@@ -16,6 +18,16 @@ final class Check {
         if (got != want) {
             wrong++;
             System.out.println(call + " answered " + got + ", due is " + want);
+        }
+    }
+
+    /** An argument: from least to most it is taken; one step beyond, and at the ends of int, it is BAD. */
+    void bounds(String call, int least, int most, IntUnaryOperator asked) {
+        for (int n : new int[] {least - 1, most + 1, Integer.MIN_VALUE, Integer.MAX_VALUE}) {
+            due(call + " by " + n, asked.applyAsInt(n), BAD);
+        }
+        for (int n : new int[] {least, least + 1, most - 1, most}) {
+            due(call + " takes " + n, asked.applyAsInt(n) == BAD ? 1 : 0, 0);
         }
     }
 
