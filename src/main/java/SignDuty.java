@@ -965,7 +965,7 @@ public final class SignDuty {
     private static final class Asks {
         static final int SIZE = 0, MARK = 1;
 
-        private static final int TRACED = 16, NO_BODY = 0;
+        private static final int TRACED = 16, NO_BODY = 0, FIRST_OF_MARK = 20;
 
         /** Far more bodies than stand open in any ask: five at most. */
         private static final int DEEPEST = 16;
@@ -1002,23 +1002,36 @@ public final class SignDuty {
             return NO_BODY;
         }
 
+        /** What a body gives, that leaves its number as it begins. */
         private int given(int body, City city, int gesture, int depth) {
             if (depth >= DEEPEST) {
                 return 0;
             }
             leave(body);
-            int deeper = depth + 1;
+            if (body < FIRST_OF_MARK) {
+                return sizeBy(body, city, gesture, depth + 1);
+            }
+            return markBy(body, city, gesture, depth + 1);
+        }
+
+        private int sizeBy(int body, City city, int gesture, int depth) {
             switch (body) {
                 case 10: return city.takes[gesture];
-                case 11: return given(10, city, gesture, deeper) + asked(city, gesture, MARK, deeper);
-                case 12: return -given(11, city, gesture, deeper);
-                case 13: return given(10, city, gesture, deeper) - 100;
-                case 14: return 2 * given(13, city, gesture, deeper);
+                case 11: return given(10, city, gesture, depth) + asked(city, gesture, MARK, depth);
+                case 12: return -given(11, city, gesture, depth);
+                case 13: return given(10, city, gesture, depth) - 100;
+                case 14: return 2 * given(13, city, gesture, depth);
+                default: return 0;
+            }
+        }
+
+        private int markBy(int body, City city, int gesture, int depth) {
+            switch (body) {
                 case 20: return gesture;
-                case 21: return given(20, city, gesture, deeper) + city.inches[gesture];
-                case 22: return given(21, city, gesture, deeper) - 1000;
-                case 23: return given(20, city, gesture, deeper) - asked(city, gesture, SIZE, deeper);
-                case 24: return 2 * given(21, city, gesture, deeper);
+                case 21: return given(20, city, gesture, depth) + city.inches[gesture];
+                case 22: return given(21, city, gesture, depth) - 1000;
+                case 23: return given(20, city, gesture, depth) - asked(city, gesture, SIZE, depth);
+                case 24: return 2 * given(21, city, gesture, depth);
                 default: return 0;
             }
         }
